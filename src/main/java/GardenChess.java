@@ -316,7 +316,8 @@ public final class GardenChess {
         if (what < 0 || what > 3 || !canCome(n, 0, AHEAD)) {
             return NONE;
         }
-        lookAhead(n);
+        trial.copy(game);
+        trial.passDays(n);
         switch (what) {
             case 0: return trial.menOf(0);
             case 1: return trial.menOf(1);
@@ -329,7 +330,8 @@ public final class GardenChess {
         if (!isField(field) || !canCome(n, 0, AHEAD)) {
             return NONE;
         }
-        lookAhead(n);
+        trial.copy(game);
+        trial.passDays(n);
         return trial.bears[field];
     }
 
@@ -369,7 +371,8 @@ public final class GardenChess {
         if (!isSide(side) || deep < 1 || deep > 2 || !canCome(n, 0, AHEAD)) {
             return NOTHING;
         }
-        lookAhead(n);
+        trial.copy(game);
+        trial.passDays(n);
         int asTold = trial.borne();
         trial.copy(game);
         trial.deep[side] = deep;
@@ -573,11 +576,6 @@ public final class GardenChess {
     /** Whether n DAYS can come from now on: from least to most, and not beyond the last DAY. */
     private boolean canCome(int n, int least, int most) {
         return isTold() && n >= least && n <= most && game.day + n <= LAST_DAY;
-    }
-
-    private void lookAhead(int n) {
-        trial.copy(game);
-        trial.passDays(n);
     }
 
     private static int letterOf(int name, int k) {
@@ -861,7 +859,7 @@ public final class GardenChess {
                     k = from;
                     alike = true;
                 } else if (alike) {
-                    alike = k < behind && tape.byteAt(k) == sign;
+                    alike = k < behind && k < tape.bytes.length && tape.bytes[k] == sign;
                     k++;
                 }
             }
@@ -917,7 +915,7 @@ public final class GardenChess {
         /** The NAME at hand; NONE with a FAULT. */
         int nameAtHand() {
             if (sort != SORT_WORD || (word >= 0 && word < OWN_WORDS)) {
-                failForm();
+                fail(FAULT_FORM, from);
                 return NONE;
             }
             if (behind - from > NAME_LETTERS) {
@@ -1229,7 +1227,11 @@ public final class GardenChess {
                     newField(plan);
                     break;
                 case WORD_HARM:
-                    newHarm(plan);
+                    if (begins(plan.harms, 1)) {
+                        plan.harms = 1;
+                        composer.start(plan.harm, false);
+                        composer.sum(0);
+                    }
                     break;
                 case WORD_GROWS:
                     reader.step();
@@ -1309,14 +1311,6 @@ public final class GardenChess {
             plan.fieldAt[field] = row * WIDE + column;
             plan.fieldBears[field] = reader.takeNumber(1, MOST_BORNE);
             plan.fields = field + 1;
-        }
-
-        private void newHarm(Plan plan) {
-            if (begins(plan.harms, 1)) {
-                composer.start(plan.harm, false);
-                composer.sum(0);
-                plan.harms = 1;
-            }
         }
 
         private void newName(Plan plan, int slot) {
@@ -1523,7 +1517,8 @@ public final class GardenChess {
         }
 
         private int leadOf(int man) {
-            return plan.sideOf[man] == 0 ? plan.worthOf(man) : -plan.worthOf(man);
+            int worth = plan.worth[plan.kindOf[man]];
+            return plan.sideOf[man] == 0 ? worth : -worth;
         }
 
         // ---- MOVES
@@ -1758,12 +1753,8 @@ public final class GardenChess {
             return false;
         }
 
-        private boolean takesCrown(int mover) {
-            return crownsTaken == 0 && threatens(mover);
-        }
-
         int forcedBy() {
-            if (takesCrown(side)) {
+            if (crownsTaken == 0 && threatens(side)) {
                 return 1;
             }
             for (int man = 0; crownsTaken == 0 && man < plan.men; man++) {
@@ -1794,7 +1785,7 @@ public final class GardenChess {
                     if ((goals >> to & 1) != 0) {
                         int from = places[man];
                         int taken = carry(man, to);
-                        boolean lost = takesCrown(1 - mover);
+                        boolean lost = crownsTaken == 0 && threatens(1 - mover);
                         carryBack(man, from, taken);
                         if (!lost) {
                             return false;
