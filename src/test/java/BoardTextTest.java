@@ -19,8 +19,10 @@ public final class BoardTextTest {
         blanks();
         counts();
         everyPlace();
+        missingWords();
         staying();
         asAtFirst();
+        nothingLeftOver();
         Bench.close("BoardTextTest");
     }
 
@@ -236,7 +238,6 @@ public final class BoardTextTest {
             + " man a is k of 1 at 2 0 ; field f at 0 1 bears 90 ;"
             + " harm min ( taken * 2 , 7 ) + max ( ( off ) , day ) / check - 3 ; grows 4 ; sleepy 5 ;").split(" +");
         StringBuilder text = new StringBuilder();
-        int statements = 0;
         for (String piece : whole) {
             String ahead = text.toString();
             boolean ended = ahead.endsWith("; ");
@@ -248,6 +249,49 @@ public final class BoardTextTest {
         }
         GardenChess x = new GardenChess();
         Bench.due("board()", Bench.board(x, text.toString()), 7);
+    }
+
+    /** Where a word or a ; is left out, what stands behind it is found. */
+    private static void missingWords() {
+        String[] whole = (HEAD.replace(";", " ;") + " kind k ways 3 reach 2 worth 9 crown ; man a is k of 1 at 2 0 ;"
+            + " field f at 0 1 bears 90 ; harm min ( taken , 7 ) ; grows 4 ; sleepy 5 ;").split(" +");
+        String words = " by white black ways reach worth is of at bears , ; ";
+        for (int left = 0; left < whole.length; left++) {
+            if (words.contains(" " + whole[left] + " ")) {
+                StringBuilder text = new StringBuilder();
+                int place = 0;
+                for (int i = 0; i < whole.length; i++) {
+                    place = i == left ? text.length() : place;
+                    text.append(i == left ? "" : whole[i] + " ");
+                }
+                Bench.faulty(text.toString(), 1, place);
+            }
+        }
+    }
+
+    /** What an older board told is told no more, however many were told since. */
+    private static void nothingLeftOver() {
+        String men = "kind k ways 2 reach 1 worth 5;man a is k of 0 at 0 0;man b is k of 1 at 1 0;field f at 0 0 bears 50;";
+        GardenChess x = new GardenChess();
+        for (int i = 0; i < 3; i++) {
+            Bench.due("board()", Bench.board(x, HEAD + men + "harm 5;grows 1;sleepy 100;"), 8);
+            x.chance(1);
+            Bench.due("as told", x.field(0, 2), 46);
+            Bench.due("with a FAULT", Bench.board(x, HEAD + men + "harm 9;grows 9;sleepy 99;x"), -1);
+            x.chance(1);
+            Bench.due("as told", x.field(0, 2), 42);
+        }
+        for (int i = 0; i < 3; i++) {
+            Bench.due("board()", Bench.board(x, HEAD + men), 5);
+            Bench.due("no sleepy", x.chance(1), 0);
+            Bench.due("no harm, no grows", x.field(0, 2), 50);
+        }
+        for (int i = 0; i < 3; i++) {
+            Bench.due("board()", Bench.board(x, HEAD), 1);
+            for (int what = 2; what <= 12; what++) {
+                Bench.due("has(" + what + ")", x.has(what), what == 7 ? 1 : 0);
+            }
+        }
     }
 
     private static void staying() {

@@ -225,20 +225,24 @@ public final class PlainModelTest {
         }
     }
 
-    private static void image(String of) {
-        int[] want = new int[4 + 2 * m.men + 2 * m.fields];
-        want[0] = m.now.day / 256;
-        want[1] = m.now.day % 256;
-        want[2] = m.now.side;
+    private static int[] imageOf() {
+        int[] bytes = new int[4 + 2 * m.men + 2 * m.fields];
+        bytes[0] = m.now.day / 256;
+        bytes[1] = m.now.day % 256;
+        bytes[2] = m.now.side;
         for (int man = 0; man < m.men; man++) {
-            want[3 + 2 * man] = m.now.column[man] & 255;
-            want[4 + 2 * man] = m.now.row[man] & 255;
+            bytes[3 + 2 * man] = m.now.column[man] & 255;
+            bytes[4 + 2 * man] = m.now.row[man] & 255;
         }
         for (int f = 0; f < m.fields; f++) {
-            want[3 + 2 * m.men + 2 * f] = m.now.bears[f] / 256;
-            want[4 + 2 * m.men + 2 * f] = m.now.bears[f] % 256;
+            bytes[3 + 2 * m.men + 2 * f] = m.now.bears[f] / 256;
+            bytes[4 + 2 * m.men + 2 * f] = m.now.bears[f] % 256;
         }
-        Bench.marked(want);
+        return Bench.marked(bytes);
+    }
+
+    private static void image(String of) {
+        int[] want = imageOf();
         Bench.due(of + "image", x.image(), want.length);
         for (int k = 0; k < want.length; k++) {
             Bench.due(of + "octet " + k, x.octet(k), want[k]);
@@ -247,7 +251,7 @@ public final class PlainModelTest {
 
     private static void act(String of) {
         List<int[]> all = m.moves(m.now);
-        int sort = CHANCE.nextInt(6);
+        int sort = CHANCE.nextInt(7);
         if (sort <= 1 && !all.isEmpty()) {
             int k = CHANCE.nextInt(all.size());
             int taken = m.now.at(all.get(k)[1], all.get(k)[2]);
@@ -275,6 +279,39 @@ public final class PlainModelTest {
             boolean can = !m.past.isEmpty();
             Bench.due(of + "undo", x.undo(), can);
             m.now = can ? m.past.remove(m.past.size() - 1) : m.now;
+        } else if (sort == 6) {
+            anyImage(of);
+        }
+    }
+
+    /** An image as it could be of this board, whatever happened, or one MEN of which share a place. */
+    private static void anyImage(String of) {
+        PlainModel.State s = m.now.twin();
+        s.kept.clear();
+        s.day = CHANCE.nextInt(950);
+        s.side = CHANCE.nextInt(2);
+        boolean right = true;
+        for (int man = 0; man < m.men; man++) {
+            boolean taken = CHANCE.nextInt(6) == 0;
+            s.column[man] = taken ? -1 : CHANCE.nextInt(m.columns);
+            s.row[man] = taken ? -1 : CHANCE.nextInt(m.rows);
+            right = right && (taken || s.at(s.column[man], s.row[man]) == man);
+            for (int other = man + 1; other < m.men; other++) {
+                s.column[other] = -1;
+                s.row[other] = -1;
+            }
+        }
+        for (int f = 0; f < m.fields; f++) {
+            s.bears[f] = CHANCE.nextInt(1000);
+        }
+        PlainModel.State ahead = m.now;
+        m.now = s;
+        Bench.tape(x, imageOf());
+        Bench.due(of + "on", x.on(), right);
+        if (right) {
+            m.past.clear();
+        } else {
+            m.now = ahead;
         }
     }
 }
