@@ -19,7 +19,24 @@ public final class PlainModelTest {
                 act("run " + run + ", turn " + turn + " of " + m.text + ": ");
             }
         }
+        forced();
         Bench.close("PlainModelTest");
+    }
+
+    /** What is FORCED on small boards, where it often is by 2. */
+    private static void forced() {
+        int[] found = new int[4];
+        for (int run = 0; run < 60000; run++) {
+            m = PlainModel.any(CHANCE);
+            if (m.columns * m.rows <= 12 && m.men >= 2 && m.men <= 5 && m.text.length() <= 1600) {
+                x = Bench.on(m.text);
+                int by = m.forced(m.now);
+                found[by + 1]++;
+                Bench.due("forced of " + m.text, x.forced(), by);
+            }
+        }
+        Bench.due("FORCED by 1 is among them", found[2] > 100, true);
+        Bench.due("FORCED by 2 is among them", found[3] > 30, true);
     }
 
     private static void compare(String of) {

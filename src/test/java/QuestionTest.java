@@ -146,6 +146,8 @@ public final class QuestionTest {
         faulty("total -1", 1, 6);
         faulty("total min(1)", 1, 11);
         faulty("total min 1", 1, 10);
+        faulty("total min", 1, 9);
+        faulty("total max+1", 1, 9);
         faulty("total 1,", 1, 7);
         faulty("total numbers", 1, 6);
         faulty("total Number", 1, 6);
